@@ -473,12 +473,11 @@ public final class ExemptBeauty {
     }
 
     public int act(int person, int act, int x) {
-        actor.ran = 0;
+        actor.forget();
         if (!isPerson(person) || act < 0 || act >= ACTS) {
             return 0;
         }
-        Person one = now.people[person];
-        return actor.perform(one, one.kind, act, x, 0);
+        return actor.begin(now.people[person], act, x);
     }
 
     public int trace(int i) {
@@ -1305,8 +1304,16 @@ public final class ExemptBeauty {
         final int[] bodies = new int[TRACED];
         int ran = 0;
 
+        void forget() {
+            ran = 0;
+        }
+
+        int begin(Person one, int act, int x) {
+            return perform(one, one.kind, act, x, 0);
+        }
+
         /** The body of the kind, or of the next above that has one. */
-        int perform(Person one, int kind, int act, int x, int depth) {
+        private int perform(Person one, int kind, int act, int x, int depth) {
             int k = kind;
             for (int step = 0; step < KINDS && k >= 0 && k < KINDS; step++) {
                 int body = BODIES[k * ACTS + act];
