@@ -100,6 +100,9 @@ public final class EdgesOfPeopleTest {
         Due.is("24 nobody", x.mean(0, 1), NO);
         Due.is("26 nobody", x.ends(0), 0);
         Due.is("26 nobody", x.ends(1), 0);
+        Due.is("19 no looks, though nobody is there", x.see(-1, -1, true, -1), 0);
+        Due.is("25 no plan, though nobody is there", x.plan(-1, -1), 0);
+        Due.is("27 no book, though nobody is there", x.book(-1, -1), 0);
         Due.is("28 nothing booked", x.looked(), -5);
         Due.is("29 none to look at", x.judge(0, 0), -5);
         Due.is("31 no image", x.undo(), STATE);
