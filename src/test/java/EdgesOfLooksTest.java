@@ -464,6 +464,11 @@ public final class EdgesOfLooksTest {
         }
         Due.is("26 all left", x.ends(0), 0);
         Due.is("26 all left", x.ends(1), 0);
+        ExemptBeauty y = town(0, 0);
+        Due.office(y, "like 9 h=" + DARK + "&a=0");
+        y.plan(2, 1);
+        Due.is("26 one leaves within the hour and the year", y.ends(1), 6);
+        Due.is("26 one leaves within the hour and the year", y.ends(0), 0);
     }
 
     // ---- books

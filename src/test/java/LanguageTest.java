@@ -8,7 +8,9 @@ import java.nio.file.Paths;
 import java.util.ArrayList;
 import java.util.Arrays;
 import java.util.List;
+import java.util.Map;
 import java.util.Set;
+import java.util.TreeMap;
 import java.util.TreeSet;
 import java.util.regex.Matcher;
 import java.util.regex.Pattern;
@@ -26,6 +28,9 @@ public final class LanguageTest {
     };
     private static final Set<Class<?>> CONSTANTS = Set.of(int.class, long.class, boolean.class, char.class, String.class, int[].class,
         long[].class, char[].class, byte[].class);
+
+    /** What is read and acted in itself: parts of a text, and bodies that call others. */
+    private static final Set<String> RECURSIVE = Set.of("readsEither", "readsBoth", "readsPart", "perform", "run");
 
     public static void main(String[] args) throws Exception {
         constants();
@@ -132,6 +137,43 @@ public final class LanguageTest {
         }
         Due.holds("rule 11: classes: " + many, many <= 12);
         lengths(bare.split("\n"));
+        Map<String, Set<String>> called = called(bare.split("\n"));
+        for (String method : called.keySet()) {
+            int deep = deepest(method, called, new TreeSet<>());
+            Due.holds("rule 11: " + method + " goes " + deep + " deep", deep <= 8);
+        }
+    }
+
+    /** By a method's name, the names of those that it calls; of methods that share a name, all together. */
+    private static Map<String, Set<String>> called(String[] lines) {
+        Map<String, Set<String>> called = new TreeMap<>();
+        Set<String> within = new TreeSet<>();
+        for (String line : lines) {
+            Matcher head = Pattern.compile("^(?: {4}| {8})[a-z][\\w\\[\\] .,<>]* (\\w+)\\([\\w\\[\\] ,]*\\) \\{$").matcher(line);
+            if (head.matches()) {
+                within = called.computeIfAbsent(head.group(1), name -> new TreeSet<>());
+                continue;
+            }
+            Matcher call = Pattern.compile("\\b(\\w+)\\(").matcher(line);
+            while (call.find()) {
+                within.add(call.group(1));
+            }
+        }
+        return called;
+    }
+
+    /** How many methods of the class stand open at most, this one too; those that call themselves, by others or not, count 0. */
+    private static int deepest(String method, Map<String, Set<String>> called, Set<String> open) {
+        if (!called.containsKey(method) || open.contains(method)) {
+            return 0;
+        }
+        open.add(method);
+        int deepest = 0;
+        for (String next : called.get(method)) {
+            deepest = Math.max(deepest, deepest(next, called, open));
+        }
+        open.remove(method);
+        return deepest + (RECURSIVE.contains(method) ? 0 : 1);
     }
 
     /** A method ends at the brace that stands where its first line begins. */
